@@ -13,6 +13,7 @@ public final class MeshBiller {
     private static final int CELLS = 8, ZONES = 3, PHONES = 10, WALLETS = 4;
     private static final int MOST_BUNDLES = 40, MOST_CALLS = 40, MOST_LEGS = 80, MOST_PARTIES = 4;
     private static final int MOST_CHANNELS = 10, MOST_RATE = 1000, MOST_LENGTH = 100, MOST_MONEY = 1000000;
+    private static final int DEAREST_SLICE = MOST_LENGTH * MOST_RATE;
     private static final int MOST_BUNDLE_SECONDS = 5000, MOST_DAYS = 30, MOST_RANK = 9, ALL_ZONES = 7;
     private static final int MOST_PASSED = 500, LAST_SECOND = 50000;
     private static final int HOUR = 100, HOURS = 24, DAY = 2400, FIRST_PEAK_HOUR = 8, LAST_PEAK_HOUR = 19;
@@ -362,7 +363,10 @@ public final class MeshBiller {
         line.append('P').append(shown.phone.number).append('C').append(shown.call.number);
         line.append(':').append(shown.ratedSeconds).append('=').append(shown.chargedMoney);
         line.append('+').append(shown.coveredMoney).append(signOf(shown.state));
-        return place < line.length() ? line.charAt(place) : NONE;
+        if (place >= line.length()) {
+            return NONE;
+        }
+        return line.charAt(place);
     }
 
     // ---- looking things up
@@ -691,10 +695,10 @@ public final class MeshBiller {
             costOfDay += money;
         }
 
-        /** How much money its leg may set aside in a day, when nothing is set aside for it. */
+        /** How much money its leg may set aside in a day, when nothing is set aside for it; below 0 if it cost more. */
         int mostByCap(int day) {
             if (cap == NONE) {
-                return Integer.MAX_VALUE;
+                return DEAREST_SLICE;
             }
             return costDay == day ? cap - costOfDay : cap;
         }

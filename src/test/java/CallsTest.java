@@ -17,6 +17,7 @@ public final class CallsTest {
         promise19HalvingOfTheRichest();
         promise19HalvingInLivedSeconds();
         promise19NoHalving();
+        promise19HalvingAndCaps();
         promise19RateChanges();
         promise20Now();
         behindTheLastCall();
@@ -374,12 +375,37 @@ public final class CallsTest {
         net.join(3, 1, false);
         Check.due("it is not halved", net.sliceOf(9), 20);
         Check.due("the bundle pays the phone 3", net.sliceOf(3), 10);
-        MeshBiller capped = new MeshBiller();
-        capped.top(0, 200);
-        capped.setCap(4, 19);
-        capped.begin(0, 4, true);
-        Check.due("if the cap lets no second, none is halved: CUT", capped.stateOf(1), MeshBiller.CUT);
-        Check.due("all went back", capped.free(0), 200);
+    }
+
+    /** Others are halved only if the cap lets a second and the money pays none. */
+    private static void promise19HalvingAndCaps() {
+        MeshBiller net = new MeshBiller();
+        net.top(0, 400);
+        net.begin(0, 8, true);
+        net.setCap(4, 19);
+        Check.due("the leg of the phone 4", net.join(4, 0, true), 2);
+        Check.due("the cap lets no second: CUT", net.stateOf(2), MeshBiller.CUT);
+        Check.due("none is halved for it", net.sliceOf(0), 20);
+        net.setCap(4, 39);
+        net.join(4, 0, true);
+        Check.due("the cap lets one second", net.sliceOf(4), 1);
+        Check.due("the phone 0 gave a half for it", net.sliceOf(0), 10);
+        Check.due("what is not needed is free", net.free(0), 80);
+        MeshBiller exact = new MeshBiller();
+        exact.top(0, 420);
+        exact.begin(0, 8, true);
+        exact.join(4, 0, true);
+        Check.due("the money pays one second", exact.sliceOf(4), 1);
+        Check.due("so none is halved", exact.sliceOf(0), 20);
+        MeshBiller cheap = new MeshBiller();
+        cheap.setRate(1, false, 1);
+        cheap.top(0, 202);
+        cheap.begin(0, 4, true);
+        Check.due("two seconds at the rate 1", cheap.sliceOf(4), 2);
+        cheap.pass(2);
+        Check.due("the third one: the phone 0 has used one, and gives 8 of 17", cheap.pass(1), 0);
+        Check.due("they pay a whole slice at the rate 1", cheap.sliceOf(4), 19);
+        Check.due("and 60 are free", cheap.free(0), 60);
     }
 
     private static void promise19RateChanges() {

@@ -51,7 +51,7 @@ public final class FaceTest {
         "int lineAt(int,int) " + INDEX,
     };
     private static final String[] FORBIDDEN = {"->", "::", "finally", "synchronized", "assert ", "protected", " catch ",
-        "hashCode", "equals(", "toString(", "Exact(", "\" +", "+ \"", "native ", "Math.random", "System.out"};
+        "hashCode", "equals(", "toString(", "Exact(", "\" +", "+ \"", "native ", "Math.random", "System.", "Integer.", "Long.", "Arrays."};
 
     public static void main(String[] args) throws IOException {
         methods();

@@ -11,6 +11,7 @@ public final class LegsTest {
         promise31LongLeg();
         promise32Tag();
         promise33Seal();
+        promise33ManyEvents();
         promise33Dropped();
         promise34Stamp();
         promise35LineAt();
@@ -206,6 +207,18 @@ public final class LegsTest {
         net.pass(10);
         net.move(9, 3);
         Check.due("nothing behind the end", net.seal(1), new Seal(8).event(0, 17, 0).event(2, 520, 0).done());
+    }
+
+    /** So many events that bits fall out above, and a seal with its sign set is turned. */
+    private static void promise33ManyEvents() {
+        MeshBiller net = inCall();
+        Seal seal = new Seal(0).event(0, 0, 0);
+        for (int i = 0; i < 40; i++) {
+            net.pass(400);
+            net.move(0, i % 2 == 0 ? 7 : 0);
+            seal.event(1, 400 * (i + 1), i % 2 == 0 ? 7 : 0);
+            Check.due("the seal behind the move " + i, net.seal(0), seal.done());
+        }
     }
 
     private static void promise33Dropped() {

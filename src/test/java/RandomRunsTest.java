@@ -7,7 +7,7 @@ import java.util.Random;
  * are written out, so each run is the same each time.
  */
 public final class RandomRunsTest {
-    private static final int RUNS = 240, CALLS = 512;
+    private static final int RUNS = 280, CALLS = 512;
     private static final String[] READERS = {"free", "aside", "spent", "left", "now", "cellOf", "rateOf", "legOf",
         "sliceOf", "parties", "legs", "stateOf", "seconds", "charged", "covered", "ratedByEvents", "tag", "seal",
         "stamp", "lineAt"};
@@ -22,7 +22,7 @@ public final class RandomRunsTest {
 
     private RandomRunsTest(int seed) {
         random = new Random(seed);
-        flavour = seed % 6;
+        flavour = seed % 7;
     }
 
     public static void main(String[] args) {
@@ -77,9 +77,9 @@ public final class RandomRunsTest {
         try {
             return "" + (isNet ? Face.call(net, name, a) : model.call(name, a));
         } catch (IndexOutOfBoundsException e) {
-            return e.getClass() == IndexOutOfBoundsException.class ? "throws index" : "throws " + e;
+            return !isNet || Check.isThrownByTheClass(e) ? "throws index" : "throws " + e;
         } catch (IllegalArgumentException e) {
-            return e.getClass() == IllegalArgumentException.class ? "throws argument" : "throws " + e;
+            return "throws argument";
         } catch (IllegalStateException e) {
             return "throws state";
         }
@@ -91,6 +91,9 @@ public final class RandomRunsTest {
     }
 
     private String next() {
+        if (flavour == 6 && random.nextInt(3) == 0) {
+            return "move";
+        }
         int share = flavour == 5 ? 2 : 3;
         return random.nextInt(5) < share ? CHANGERS[random.nextInt(CHANGERS.length)]
                 : READERS[random.nextInt(READERS.length)];
@@ -101,7 +104,7 @@ public final class RandomRunsTest {
     }
 
     private int amount() {
-        return 1 + random.nextInt(flavour < 2 ? 300 : flavour == 5 ? 60000 : 5000);
+        return 1 + random.nextInt(flavour < 2 ? 300 : flavour > 4 ? 60000 : 5000);
     }
 
     private int[] arguments(String name) {
@@ -122,7 +125,7 @@ public final class RandomRunsTest {
             case "join": return new int[] {upTo(9), Math.max(0, calls - 1 - random.nextInt(3)), upTo(1)};
             case "leave": return new int[] {random.nextInt(2) == 0 ? upTo(9) : upTo(3)};
             case "move": return move();
-            case "pass": return new int[] {1 + random.nextInt(flavour == 4 ? 500 : random.nextInt(8) == 0 ? 200 : 15)};
+            case "pass": return new int[] {1 + random.nextInt(flavour == 4 ? 500 : flavour == 6 ? 100 : random.nextInt(8) == 0 ? 200 : 15)};
             case "left": return new int[] {Math.max(0, upTo(Math.max(0, bundles - 1)))};
             case "parties", "stamp": return new int[] {upTo(Math.max(0, calls - 1))};
             case "stateOf", "seconds", "charged", "covered", "ratedByEvents", "tag", "seal":
@@ -135,7 +138,7 @@ public final class RandomRunsTest {
     private int[] move() {
         int phone = upTo(9);
         int from = net.cellOf(phone);
-        return new int[] {phone, random.nextInt(5) == 0 ? upTo(7) : from + 7 + 2 * upTo(1) & 7};
+        return new int[] {phone, random.nextInt(flavour == 6 ? 40 : 5) == 0 ? upTo(7) : from + 7 + 2 * upTo(1) & 7};
     }
 
     /** Arguments of which one or more are at or beyond an edge. */

@@ -198,13 +198,13 @@ public final class SettingsTest {
         MeshBiller net = fresh();
         net.top(0, 100000);
         net.top(1, 100000);
-        net.setCap(0, 254);
+        net.setCap(0, 250);
         net.begin(0, 1, false);
         Check.due("the cap lets 20 of 25 seconds at first", net.sliceOf(0), 20);
         net.pass(10);
         net.leave(0);
         net.begin(0, 1, false);
-        Check.due("an earlier leg of the day counts: 154 mills are left", net.sliceOf(0), 15);
+        Check.due("an earlier leg of the day counts: 150 mills are left", net.sliceOf(0), 15);
         Check.due("15 seconds are lived", net.pass(15), 0);
         Check.due("the 26th one is not", net.pass(1), 1);
         Check.due("the leg is CUT", net.stateOf(2), MeshBiller.CUT);
@@ -224,7 +224,7 @@ public final class SettingsTest {
         Check.due("the next day begins anew", net.sliceOf(0), 20);
         Check.due("it begins with nothing used: 5 more at the end", net.pass(25), 0);
         Check.due("and then none", net.pass(1), 1);
-        Check.due("the cap lowered: what is set aside stays", net.setCap(0, 5), 254);
+        Check.due("the cap lowered: what is set aside stays", net.setCap(0, 5), 250);
     }
 
     private static void promise6CapWhoeverPays() {

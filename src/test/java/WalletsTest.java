@@ -48,8 +48,9 @@ public final class WalletsTest {
         MeshBiller net = rich();
         Check.due("give(0, 1, 300)", net.give(0, 1, 300), 700);
         Check.due("the other one has it", net.free(1), 1300);
-        Check.due("give(0, 3, 700) gives all", net.give(0, 3, 700), 0);
-        Check.due("the other one has it", net.free(3), 700);
+        Check.due("give(0, 3, 1)", net.give(0, 3, 1), 699);
+        Check.due("give(0, 3, 699) gives all", net.give(0, 3, 699), 0);
+        Check.due("the other one has both", net.free(3), 700);
         net.begin(1, 5, false);
         Check.due("what is set aside can't be given", Check.thrownBy(net, x -> x.give(1, 0, 1300)),
                 "IllegalStateException");

@@ -51,9 +51,16 @@ final class Check {
         try {
             call.accept(net);
         } catch (RuntimeException e) {
-            return e.getClass().getSimpleName();
+            return isThrownByTheClass(e) ? e.getClass().getSimpleName() : e + " of the library or the machine";
         }
         return "nothing";
+    }
+
+    /** A list throws IndexOutOfBoundsException by itself: the class must have looked ahead of that. */
+    static boolean isThrownByTheClass(RuntimeException e) {
+        StackTraceElement[] trace = e.getStackTrace();
+        return trace.length > 0 && trace[0].getClassName().startsWith("MeshBiller") && e.getMessage() != null
+            && !e.getMessage().contains("out of bounds for");
     }
 
     /** All that the readers tell of a network. */
