@@ -1,27 +1,7 @@
 /** Promises 15 to 20: calls that begin, are joined, left, handed over and lived; and the terms of slices. */
 public final class CallsTest {
     public static void main(String[] args) {
-        promise15Begin();
-        promise15Refused();
-        promise15Channels();
-        promise15MostCallsAndLegs();
-        promise16Join();
-        promise16Hosted();
-        promise16Refused();
-        promise17Leave();
-        promise18Move();
-        promise18Dropped();
-        promise19Pass();
-        promise19EndsAtOnce();
-        promise19Halving();
-        promise19HalvingOfTheRichest();
-        promise19HalvingInLivedSeconds();
-        promise19NoHalving();
-        promise19HalvingAndCaps();
-        promise19RateChanges();
-        promise20Now();
-        behindTheLastCall();
-        Check.finish();
+        Check.runTests(CallsTest.class);
     }
 
     private static MeshBiller rich() {
@@ -446,7 +426,7 @@ public final class CallsTest {
     }
 
     /** Behind the call 512 answers are free, but nothing may throw that no promise names. */
-    private static void behindTheLastCall() {
+    private static void promises1To35BehindTheLastCall() {
         MeshBiller net = inCall();
         for (int i = 0; i < 5000; i++) {
             net.move(0, i % 2);

@@ -1,22 +1,7 @@
 /** Promises 21 to 35: what there is to read of phones, calls and legs. */
 public final class LegsTest {
     public static void main(String[] args) {
-        promises21To24Phones();
-        promise25Parties();
-        promise26Legs();
-        promise27StateOf();
-        promises28To30Rated();
-        promise31RatedByEvents();
-        promise31SeveralEventsInASecond();
-        promise31LongLeg();
-        promise32Tag();
-        promise33Seal();
-        promise33ManyEvents();
-        promise33Dropped();
-        promise34Stamp();
-        promise35LineAt();
-        noSuchLegOrCall();
-        Check.finish();
+        Check.runTests(LegsTest.class);
     }
 
     private static MeshBiller rich() {
@@ -286,7 +271,7 @@ public final class LegsTest {
         Check.refuses("lineAt(-1, 0)", Check.INDEX, LegsTest::inCall, x -> x.lineAt(-1, 0));
     }
 
-    private static void noSuchLegOrCall() {
+    private static void promises25To34NoSuchLegOrCall() {
         for (int leg : new int[] {-1, 2, 80, Integer.MAX_VALUE, Integer.MIN_VALUE}) {
             Check.refuses("stateOf(" + leg + ")", Check.INDEX, LegsTest::inCall, x -> x.stateOf(leg));
             Check.refuses("seconds(" + leg + ")", Check.INDEX, LegsTest::inCall, x -> x.seconds(leg));

@@ -1,18 +1,7 @@
 /** Promises 1 to 7: a new object, and what is set for cells, rates and phones. */
 public final class SettingsTest {
     public static void main(String[] args) {
-        promise1NewObject();
-        promise2SetZone();
-        promise3SetChannels();
-        promise3Guards();
-        promise4SetRate();
-        promise4FromThisSecondOn();
-        promise5SetSlice();
-        promise6SetCap();
-        promise6CapOfADay();
-        promise6CapWhoeverPays();
-        promise7SetWallet();
-        Check.finish();
+        Check.runTests(SettingsTest.class);
     }
 
     private static MeshBiller fresh() {

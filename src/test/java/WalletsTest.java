@@ -1,18 +1,7 @@
 /** Promises 8 to 14: money and bundles. */
 public final class WalletsTest {
     public static void main(String[] args) {
-        promise8Top();
-        promise9Give();
-        promise10Buy();
-        promise10OrderOfUse();
-        promise10OverAfterDays();
-        promise10MostBundles();
-        promise11Free();
-        promise12Aside();
-        promise13Spent();
-        promise14Left();
-        promise14BackToABundleThatIsOver();
-        Check.finish();
+        Check.runTests(WalletsTest.class);
     }
 
     private static MeshBiller rich() {

@@ -1,5 +1,5 @@
-import java.util.ArrayList;
-import java.util.List;
+import java.lang.reflect.Method;
+import java.util.TreeMap;
 import java.util.function.Consumer;
 import java.util.function.Supplier;
 
@@ -11,27 +11,25 @@ final class Check {
 
     private static int wrong = 0;
     private static int looked = 0;
+    /** The test that runs, as a sign ahead of what it tells. */
+    private static String test = "";
 
     private Check() {
     }
 
     static void due(String what, long got, long want) {
-        looked++;
-        if (got != want) {
-            wrong++;
-            System.out.println(what + " answered " + got + ", due is " + want);
-        }
+        due(what, "" + got, "" + want);
     }
 
     static void due(String what, boolean got, boolean want) {
-        due(what, got ? 1 : 0, want ? 1 : 0);
+        due(what, "" + got, "" + want);
     }
 
     static void due(String what, String got, String want) {
         looked++;
         if (!got.equals(want)) {
             wrong++;
-            System.out.println(what + " answered " + got + ", due is " + want);
+            System.out.println(test + what + " answered " + got + ", due is " + want);
         }
     }
 
@@ -39,12 +37,54 @@ final class Check {
         due(what, isSo, true);
     }
 
-    /** Makes the scene, lets the call throw, and looks that it throws just this and changes nothing that shows. */
+    /** A call of the face on a network, with one of its arguments left open. */
+    interface Argument {
+        void call(MeshBiller net, int value);
+    }
+
+    /**
+     * Runs every test of a class, by name: each static method without parameters that is called after a
+     * promise or a term. So none can be forgotten in a list, and each is told by its name if it fails.
+     */
+    static void runTests(Class<?> tests) {
+        TreeMap<String, Method> byName = new TreeMap<>();
+        for (Method method : tests.getDeclaredMethods()) {
+            if (method.getParameterCount() == 0 && method.getName().matches("(promises?|term)[0-9A-Z].*")) {
+                byName.put(method.getName(), method);
+            }
+        }
+        holds("a class of tests", !byName.isEmpty());
+        for (Method method : byName.values()) {
+            test = method.getName() + ": ";
+            try {
+                method.setAccessible(true);
+                method.invoke(null);
+            } catch (ReflectiveOperationException e) {
+                due("the test", "threw " + e.getCause(), "no exception");
+            }
+        }
+        test = "";
+        finish();
+    }
+
+    /** Makes the scene, lets the call throw, and looks that it throws just this and changes nothing. */
     static void refuses(String what, Class<?> want, Supplier<MeshBiller> scene, Consumer<MeshBiller> call) {
-        MeshBiller net = scene.get();
-        String before = shown(net);
-        due(what, thrownBy(net, call), want.getSimpleName());
-        due(what + ": all that shows, behind it", shown(net), before);
+        due(what, thrownBy(scene.get(), call), want.getSimpleName());
+        Supplier<MeshBiller> refused = () -> {
+            MeshBiller net = scene.get();
+            thrownBy(net, call);
+            return net;
+        };
+        due(what + ": all that shows, behind it", Probe.of(refused), Probe.of(scene));
+    }
+
+    /** The least and the most are taken; one below, one above, and what is far off are refused. */
+    static void range(String what, Supplier<MeshBiller> scene, Class<?> refusal, int least, int most, Argument of) {
+        due(what + " " + least, thrownBy(scene.get(), x -> of.call(x, least)), "nothing");
+        due(what + " " + most, thrownBy(scene.get(), x -> of.call(x, most)), "nothing");
+        for (int value : new int[] {least - 1, most + 1, Integer.MIN_VALUE, Integer.MAX_VALUE}) {
+            refuses(what + " " + value, refusal, scene, x -> of.call(x, value));
+        }
     }
 
     static String thrownBy(MeshBiller net, Consumer<MeshBiller> call) {
@@ -61,55 +101,6 @@ final class Check {
         StackTraceElement[] trace = e.getStackTrace();
         return trace.length > 0 && trace[0].getClassName().startsWith("MeshBiller") && e.getMessage() != null
             && !e.getMessage().contains("out of bounds for");
-    }
-
-    /** All that the readers tell of a network. */
-    static String shown(MeshBiller net) {
-        List<Long> all = new ArrayList<>();
-        all.add((long) net.now());
-        all.add((long) net.legs());
-        for (int phone = 0; phone < 10; phone++) {
-            all.add((long) net.cellOf(phone));
-            all.add((long) net.rateOf(phone));
-            all.add((long) net.legOf(phone));
-            all.add((long) net.sliceOf(phone));
-        }
-        for (int wallet = 0; wallet < 4; wallet++) {
-            all.add((long) net.free(wallet));
-            all.add((long) net.aside(wallet));
-            all.add((long) net.spent(wallet));
-        }
-        for (int leg = 0; leg < net.legs(); leg++) {
-            all.add((long) net.stateOf(leg));
-            all.add((long) net.seconds(leg));
-            all.add((long) net.charged(leg) + net.covered(leg));
-            all.add((long) net.ratedByEvents(leg));
-            all.add((long) net.tag(leg));
-            all.add((long) net.seal(leg));
-        }
-        return all.toString() + bundlesShown(net) + callsShown(net);
-    }
-
-    private static String bundlesShown(MeshBiller net) {
-        StringBuilder all = new StringBuilder(" bundles");
-        try {
-            for (int bundle = 0; ; bundle++) {
-                all.append(' ').append(net.left(bundle));
-            }
-        } catch (IndexOutOfBoundsException behindTheLast) {
-            return all.toString();
-        }
-    }
-
-    private static String callsShown(MeshBiller net) {
-        StringBuilder all = new StringBuilder(" calls");
-        try {
-            for (int call = 0; ; call++) {
-                all.append(' ').append(net.parties(call)).append('/').append(net.stamp(call));
-            }
-        } catch (IndexOutOfBoundsException behindTheLast) {
-            return all.toString();
-        }
     }
 
     static String lineOf(MeshBiller net, int leg) {
