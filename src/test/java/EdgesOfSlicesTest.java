@@ -226,6 +226,19 @@ public final class EdgesOfSlicesTest {
         return net;
     }
 
+    /** The wallet 0 has paid slices of the phones 0 and 8, of such lengths, and has no money left; then 20. */
+    private static MeshBiller sharedBy(int first, int second) {
+        MeshBiller net = Scenes.empty();
+        net.top(0, 10 * (first + second));
+        net.top(1, 1000);
+        net.setSlice(first);
+        net.begin(0, 1, false);
+        net.setSlice(second);
+        net.join(8, 0, false);
+        net.setSlice(20);
+        return net;
+    }
+
     /** Slices 3: "2 seconds or more left .. gives half of its seconds back, rounded down": 2, 3, 4, 5, and 100. */
     private static void termSlices3HalfRoundedDown() {
         int[] has = {2, 3, 4, 5, 99, 100};
@@ -248,6 +261,21 @@ public final class EdgesOfSlicesTest {
         none.pass(20);
         Check.due("none left: the first one is CUT", none.pass(1), 1);
         Check.due("and the other one ENDS", none.stateOf(1), MeshBiller.ENDED);
+    }
+
+    /** Slices 3: ".. 2 seconds or more left": one that has a single second, but the most money, is passed over. */
+    private static void termSlices3ADearSingleSecond() {
+        MeshBiller net = Scenes.empty();
+        net.setRate(1, false, 100);
+        net.top(0, 120);
+        net.setSlice(2);
+        net.begin(0, 9, true);
+        Check.due("2 seconds at the rate 10", net.sliceOf(0), 2);
+        Check.due("one second at the rate 100", net.sliceOf(9), 1);
+        net.join(8, 0, true);
+        Check.due("the phone 0 gave one", net.sliceOf(0), 1);
+        Check.due("the phone 9 none", net.sliceOf(9), 1);
+        Check.due("the phone 8 got it", net.sliceOf(8), 1);
     }
 
     /** Slices 3: "If the cap lets at least one second": one mill less, and none gives. */
@@ -773,19 +801,6 @@ public final class EdgesOfSlicesTest {
         Check.due("20 mills are free", none.free(0), 20);
         Check.due("the phone 0 took both seconds, and used one: it has too few", none.pass(1), 1);
         Check.due("the phone 8 is CUT", none.stateOf(1), MeshBiller.CUT);
-    }
-
-    /** The wallet 0 has paid slices of the phones 0 and 8, of such lengths, and has no money left; then 20. */
-    private static MeshBiller sharedBy(int first, int second) {
-        MeshBiller net = Scenes.empty();
-        net.top(0, 10 * (first + second));
-        net.top(1, 1000);
-        net.setSlice(first);
-        net.begin(0, 1, false);
-        net.setSlice(second);
-        net.join(8, 0, false);
-        net.setSlice(20);
-        return net;
     }
 
     /** A second, 3: "the rate of now is charged, if the slice is from money, or else covered". */

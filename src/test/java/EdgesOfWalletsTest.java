@@ -55,6 +55,17 @@ public final class EdgesOfWalletsTest {
         }
     }
 
+    /** Promise 9, "Moves free money to another wallet": the least, and all that there is. */
+    private static void promise9Moves() {
+        MeshBiller net = Scenes.rich();
+        Check.due("the least", net.give(3, 0, 1), 999999);
+        Check.due("the other one", net.free(0), 1000001);
+        Check.due("the most", net.give(0, 1, 1000000), 1);
+        Check.due("the other one", net.free(1), 2000000);
+        Check.due("the last mill", net.give(0, 2, 1), 0);
+        Check.due("the other one", net.free(2), 1000001);
+    }
+
     /** Promise 9, "Throws IllegalStateException if the first one has less free money": one mill less, or none. */
     private static void promise9LessFreeMoney() {
         Check.due("all that it has", Scenes.withMoney(7).give(0, 1, 7), 0);

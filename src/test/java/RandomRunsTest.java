@@ -33,7 +33,7 @@ public final class RandomRunsTest {
                 Check.holds("run " + seed, false);
             }
             for (int leg = 0; leg < run.legs; leg++) {
-                states[run.net.stateOf(leg)]++;
+                states[(int) run.model.call("stateOf", new int[] {leg})]++;
             }
         }
         for (int state = 0; state < 4; state++) {
@@ -137,7 +137,7 @@ public final class RandomRunsTest {
 
     private int[] move() {
         int phone = upTo(9);
-        int from = net.cellOf(phone);
+        int from = (int) model.call("cellOf", new int[] {phone});
         return new int[] {phone, random.nextInt(flavour == 6 ? 40 : 5) == 0 ? upTo(7) : from + 7 + 2 * upTo(1) & 7};
     }
 

@@ -18,6 +18,7 @@ final class Probe {
         LOOKS.add(Probe::calls);
         LOOKS.add(Probe::settings);
         LOOKS.add(Probe::settingsOfPhones);
+        LOOKS.add(Probe::settingsOfPhonesBehindCalls);
         LOOKS.add(Probe::nextNumbers);
         for (String name : new String[] {"stateOf", "seconds", "charged", "covered", "ratedByEvents", "tag", "seal"}) {
             LOOKS.add((net, told) -> all(net, told, name));
@@ -100,6 +101,14 @@ final class Probe {
             tell(net, told, "setCap", phone, 5);
             tell(net, told, "setWallet", phone, 0);
         }
+    }
+
+    /** A phone that is in a call hides its wallet until it has left. */
+    private static void settingsOfPhonesBehindCalls(MeshBiller net, StringBuilder told) {
+        for (int phone = 0; phone < 10; phone++) {
+            tell(net, told, "leave", phone);
+        }
+        settingsOfPhones(net, told);
     }
 
     private static void nextNumbers(MeshBiller net, StringBuilder told) {
